@@ -128,7 +128,7 @@ public final class RodBeam {
             case 4:
                 return give(s.area());
             case 5:
-                return give(s.stoneStrength * s.area() + s.rodsTogether());
+                return give(s.stonePush + s.rodsTogether());
             case 6:
                 return give(-s.rodsTogether());
             default:
@@ -219,7 +219,7 @@ public final class RodBeam {
         if (!isSection(section)) {
             return refuse(NO_SUCH);
         }
-        Plan plan = planOf(section);
+        Plan plan = chooser.planOf(sections[section], pairs, sizes);
         return plan.possible ? give(plan.price) : refuse(NEVER_SAFE);
     }
 
@@ -227,7 +227,7 @@ public final class RodBeam {
         if (!isRod(section, rod)) {
             return refuse(NO_SUCH);
         }
-        Plan plan = planOf(section);
+        Plan plan = chooser.planOf(sections[section], pairs, sizes);
         return plan.possible ? give(plan.pick[rod]) : refuse(NEVER_SAFE);
     }
 
@@ -235,7 +235,7 @@ public final class RodBeam {
         if (!isSection(section)) {
             return refuse(NO_SUCH);
         }
-        Plan plan = planOf(section);
+        Plan plan = chooser.planOf(sections[section], pairs, sizes);
         return plan.possible ? give(carryOut(plan, sections[section])) : refuse(NEVER_SAFE);
     }
 
@@ -389,15 +389,6 @@ public final class RodBeam {
         }
     }
 
-    /** BEST hangs on no strength of the RODS, so it is kept until something else changes. */
-    private Plan planOf(int section) {
-        Section s = sections[section];
-        if (!s.plan.known) {
-            chooser.plan(s, pairs, sizes);
-        }
-        return s.plan;
-    }
-
     private int carryOut(Plan plan, Section s) {
         int changed = 0;
         for (int r = 0; r < s.rods; r++) {
@@ -436,6 +427,8 @@ public final class RodBeam {
 
         int stoneStrength;
         int middle;
+        /** What all STONE pushes when it is pushed with f. */
+        int stonePush;
         int bands;
         final int[] bandWidth = new int[MOST_BANDS];
         final int[] bandFrom = new int[MOST_BANDS];
@@ -508,6 +501,7 @@ public final class RodBeam {
 
         private void findEdges() {
             plan.known = false;
+            stonePush = stoneStrength * area();
             edges = 0;
             for (int y = 0; y <= TOP && edges < MOST_EDGES; y++) {
                 if (isEdge(y)) {
@@ -544,6 +538,7 @@ public final class RodBeam {
      * top (or the foot) on until the PUSH is N. Where that ends lies the CUT.
      */
     private static final class Walk {
+        /** HIGH or LOW, and the CUT, as the walk found them: they may have a common divisor. */
         final Share bent = new Share();
         final Share reached = new Share();
         /** What the RODS at an edge can add, from pull to push. */
@@ -563,7 +558,7 @@ public final class RodBeam {
                 bending -= (long) strengths[r] * (s.rodHeight[r] - s.middle);
             }
             leastPush = -together;
-            mostPush = s.stoneStrength * s.area() + together;
+            mostPush = s.stonePush + together;
             startTwice = 2 * bending;
         }
 
@@ -584,40 +579,36 @@ public final class RodBeam {
         void fill(Section s, int n, boolean high) {
             long rest = (long) n - leastPush;
             long twice = startTwice;
+            int y = 0;
+            long push = 1;
             boolean ended = false;
             for (int k = 0; k < s.edges && !ended; k++) {
                 int at = high ? s.edges - 1 - k : k;
-                int y = s.edge[at];
+                int next = high ? at - 1 : at + 1;
+                y = s.edge[at];
                 long added = Math.min(rest, room[at]);
                 twice += 2 * added * (y - s.middle);
                 rest -= added;
-                int next = high ? at - 1 : at + 1;
-                if (rest <= 0 || next < 0 || next >= s.edges) {
-                    endAtEdge(twice, y);
-                    ended = true;
-                } else {
-                    int push = s.density[Math.min(at, next)];
-                    long full = (long) push * Math.abs(s.edge[next] - y);
+                ended = rest <= 0 || next < 0 || next >= s.edges;
+                if (!ended) {
+                    int density = s.density[Math.min(at, next)];
+                    long full = (long) density * Math.abs(s.edge[next] - y);
                     ended = rest <= full;
                     if (ended) {
-                        endInStone(twice + 2 * rest * (y - s.middle), y, rest, push, high);
+                        push = density;
+                    } else {
+                        twice += full * (y + s.edge[next] - 2 * s.middle);
+                        rest -= full;
                     }
-                    twice += full * (y + s.edge[next] - 2 * s.middle);
-                    rest -= full;
                 }
             }
-        }
-
-        private void endAtEdge(long twice, int y) {
-            bent.put(twice, 2);
-            reached.put(y, 1);
-        }
-
-        /** The middle of the last piece lies half its depth, rest by push, off the edge at y. */
-        private void endInStone(long twice, int y, long rest, long push, boolean high) {
+            // The last piece of STONE is rest by push deep, so its middle half of that off y.
             long way = high ? -rest : rest;
-            bent.put(twice * push + way * rest, 2 * push);
-            reached.put(y * push + way, push);
+            twice += 2 * rest * (y - s.middle);
+            bent.top = twice * push + way * rest;
+            bent.bottom = 2 * push;
+            reached.top = y * push + way;
+            reached.bottom = push;
         }
     }
 
@@ -664,11 +655,12 @@ public final class RodBeam {
 
         /** Whether another SIZE does all that this one does and goes ahead of it in BEST. */
         boolean isIdle(int number) {
+            int price = priceOf(number);
+            int strength = strengthOf(number);
             boolean idle = false;
             for (int i = 0; i < count && !idle; i++) {
-                boolean ahead = priceOf(i) < priceOf(number)
-                        || priceOf(i) == priceOf(number) && i < number;
-                idle = ahead && strengthOf(i) >= strengthOf(number);
+                boolean ahead = prices[i] < price || prices[i] == price && i < number;
+                idle = ahead && strengths[i] >= strength;
             }
             return idle;
         }
@@ -687,19 +679,26 @@ public final class RodBeam {
         private final int[] askPush = new int[MOST_ASKS];
         private final int[] askBending = new int[MOST_ASKS];
         private final boolean[] askHigh = new boolean[MOST_ASKS];
+        private int strongest = 0;
         private final int[] trial = new int[MOST_RODS];
         private final int[] pick = new int[MOST_RODS];
 
-        void plan(Section s, Pairs pairs, Sizes sizes) {
+        /** BEST hangs on no strength of the RODS, so it is kept until something else changes. */
+        Plan planOf(Section s, Pairs pairs, Sizes sizes) {
+            if (s.plan.known) {
+                return s.plan;
+            }
             Arrays.fill(trial, 0);
             listAsks(s, pairs);
-            Arrays.fill(trial, sizes.strongest());
+            strongest = sizes.strongest();
+            Arrays.fill(trial, strongest);
             s.plan.known = true;
             s.plan.possible = false;
             s.plan.price = MOST_RODS * MOST_PRICE + 1;
             if (bearsAll(s)) {
                 choose(s, sizes, 0, 0);
             }
+            return s.plan;
         }
 
         private void listAsks(Section s, Pairs pairs) {
@@ -750,18 +749,24 @@ public final class RodBeam {
                 keep(s.plan, price);
                 return;
             }
-            int strongest = sizes.strongest();
-            for (int number = -1; number < sizes.count; number++) {
-                int together = price + sizes.priceOf(number);
-                if (together < s.plan.price && !sizes.isIdle(number)) {
-                    pick[at] = number < 0 ? NOTHING : number;
-                    trial[at] = sizes.strengthOf(number);
-                    if (trial[at] == strongest || bearsAll(s)) {
-                        choose(s, sizes, at + 1, together);
-                    }
-                }
+            attempt(s, sizes, at, price, NOTHING);
+            for (int number = 0; number < sizes.count; number++) {
+                attempt(s, sizes, at, price, number);
             }
             trial[at] = strongest;
+        }
+
+        /** Of choices at one price the first found stays, as it is the first in order. */
+        private void attempt(Section s, Sizes sizes, int at, int price, int number) {
+            int together = price + sizes.priceOf(number);
+            if (together >= s.plan.price || sizes.isIdle(number)) {
+                return;
+            }
+            pick[at] = number;
+            trial[at] = sizes.strengthOf(number);
+            if (trial[at] == strongest || bearsAll(s)) {
+                choose(s, sizes, at + 1, together);
+            }
         }
 
         private void keep(Plan plan, int price) {
@@ -895,24 +900,38 @@ public final class RodBeam {
         }
     }
 
-    /** A fraction without a common divisor, its bottom above 0. */
+    /** A fraction, its bottom above 0. */
     private static final class Share {
         long top = 0;
         long bottom = 1;
 
         void put(long t, long b) {
-            long common = commonDivisor(t, b);
-            top = common > 0 ? t / common : t;
-            bottom = common > 0 ? b / common : b;
+            top = t;
+            bottom = b;
         }
 
+        void shorten() {
+            long common = commonDivisor(top, bottom);
+            if (common > 1) {
+                top /= common;
+                bottom /= common;
+            }
+        }
+
+        /** The factor is a way in a SPAN, of at most 50. */
         void scale(long factor) {
-            put(top * factor, bottom);
+            top *= factor;
+            shorten();
         }
 
-        /** BENDS without PUSH stay below 120,000 and their bottoms up to 80,000: no overflow. */
+        /**
+         * BENDS without PUSH go to 120,000, as at most 1,200 pulls over a height of 100, and their
+         * bottoms to 80,000: two of them, scaled, are added without an overflow, three not.
+         */
         void plus(Share o) {
-            put(top * o.bottom + o.top * bottom, bottom * o.bottom);
+            top = top * o.bottom + o.top * bottom;
+            bottom *= o.bottom;
+            shorten();
         }
 
         boolean isUnder(Share o) {
@@ -939,7 +958,7 @@ public final class RodBeam {
         }
 
         /**
-         * The sum of two fractions. A divisor that its top has in common with its bottom divides
+         * The sum of two fractions, both shortened. A divisor that its top has in common with its bottom divides
          * what the two bottoms have in common, so that no long numbers need be tried for one.
          */
         void putSum(Share a, Share b) {
@@ -1054,6 +1073,7 @@ public final class RodBeam {
         private final Ratio ratio = new Ratio();
 
         void writeShare(Share share) {
+            share.shorten();
             ratio.put(Math.abs(share.top), share.bottom);
             writeRatio(share.top < 0, ratio);
         }
