@@ -182,12 +182,12 @@ public final class RodBeam {
         if (pairs.count >= MOST_PAIRS) {
             return refuse(TOO_MANY);
         }
-        forgetPlans();
+        forgetBests();
         return give(pairs.add(n, m));
     }
 
     public boolean clear() {
-        forgetPlans();
+        forgetBests();
         pairs.count = 0;
         return allow();
     }
@@ -211,7 +211,7 @@ public final class RodBeam {
         if (sizes.count >= MOST_SIZES) {
             return refuse(TOO_MANY);
         }
-        forgetPlans();
+        forgetBests();
         return give(sizes.add(strength, price));
     }
 
@@ -219,24 +219,24 @@ public final class RodBeam {
         if (!isSection(section)) {
             return refuse(NO_SUCH);
         }
-        Plan plan = chooser.planOf(sections[section], pairs, sizes);
-        return plan.possible ? give(plan.price) : refuse(NEVER_SAFE);
+        Section s = sections[section];
+        return chooser.findBest(s, pairs, sizes) ? give(s.bestPrice) : refuse(NEVER_SAFE);
     }
 
     public int chosen(int section, int rod) {
         if (!isRod(section, rod)) {
             return refuse(NO_SUCH);
         }
-        Plan plan = chooser.planOf(sections[section], pairs, sizes);
-        return plan.possible ? give(plan.pick[rod]) : refuse(NEVER_SAFE);
+        Section s = sections[section];
+        return chooser.findBest(s, pairs, sizes) ? give(s.bestPick[rod]) : refuse(NEVER_SAFE);
     }
 
     public int take(int section) {
         if (!isSection(section)) {
             return refuse(NO_SUCH);
         }
-        Plan plan = chooser.planOf(sections[section], pairs, sizes);
-        return plan.possible ? give(carryOut(plan, sections[section])) : refuse(NEVER_SAFE);
+        Section s = sections[section];
+        return chooser.findBest(s, pairs, sizes) ? give(carryOut(s)) : refuse(NEVER_SAFE);
     }
 
     // ---- the BEAM
@@ -383,16 +383,16 @@ public final class RodBeam {
         return walk.bearsOn(s, n, m, true) && walk.bearsOn(s, n, m, false);
     }
 
-    private void forgetPlans() {
+    private void forgetBests() {
         for (int i = 0; i < SECTIONS; i++) {
-            sections[i].plan.known = false;
+            sections[i].bestKnown = false;
         }
     }
 
-    private int carryOut(Plan plan, Section s) {
+    private int carryOut(Section s) {
         int changed = 0;
         for (int r = 0; r < s.rods; r++) {
-            int strength = sizes.strengthOf(plan.pick[r]);
+            int strength = sizes.strengthOf(s.bestPick[r]);
             if (s.rodStrength[r] != strength) {
                 s.rodStrength[r] = strength;
                 changed++;
@@ -411,14 +411,6 @@ public final class RodBeam {
             lesser = rest;
         }
         return greater;
-    }
-
-    /** BEST of a SECTION as it was last found: a SIZE or NOTHING for each ROD. */
-    private static final class Plan {
-        boolean known = false;
-        boolean possible = false;
-        int price = 0;
-        final int[] pick = new int[MOST_RODS];
     }
 
     /** A SECTION, and the heights at which its width or its RODS change. */
@@ -442,7 +434,11 @@ public final class RodBeam {
         /** What 1 of height above an edge pushes when its STONE is pushed with f. */
         final int[] density = new int[MOST_EDGES];
         final int[] edgeOfRod = new int[MOST_RODS];
-        final Plan plan = new Plan();
+        /** BEST as it was last found, a SIZE or NOTHING for each ROD, and whether it still holds. */
+        boolean bestKnown = false;
+        boolean bestPossible = false;
+        int bestPrice = 0;
+        final int[] bestPick = new int[MOST_RODS];
 
         Section() {
             begin(10, 50);
@@ -500,7 +496,7 @@ public final class RodBeam {
         }
 
         private void findEdges() {
-            plan.known = false;
+            bestKnown = false;
             stonePush = stoneStrength * area();
             edges = 0;
             for (int y = 0; y <= TOP && edges < MOST_EDGES; y++) {
@@ -683,22 +679,25 @@ public final class RodBeam {
         private final int[] trial = new int[MOST_RODS];
         private final int[] pick = new int[MOST_RODS];
 
-        /** BEST hangs on no strength of the RODS, so it is kept until something else changes. */
-        Plan planOf(Section s, Pairs pairs, Sizes sizes) {
-            if (s.plan.known) {
-                return s.plan;
+        /**
+         * Whether the SECTION has a BEST, which it then holds. BEST hangs on no strength of the
+         * RODS, so it is kept until something else changes.
+         */
+        boolean findBest(Section s, Pairs pairs, Sizes sizes) {
+            if (s.bestKnown) {
+                return s.bestPossible;
             }
             Arrays.fill(trial, 0);
             listAsks(s, pairs);
             strongest = sizes.strongest();
             Arrays.fill(trial, strongest);
-            s.plan.known = true;
-            s.plan.possible = false;
-            s.plan.price = MOST_RODS * MOST_PRICE + 1;
+            s.bestKnown = true;
+            s.bestPossible = false;
+            s.bestPrice = MOST_RODS * MOST_PRICE + 1;
             if (bearsAll(s)) {
                 choose(s, sizes, 0, 0);
             }
-            return s.plan;
+            return s.bestPossible;
         }
 
         private void listAsks(Section s, Pairs pairs) {
@@ -746,7 +745,7 @@ public final class RodBeam {
         /** RODS before at are chosen, the others the strongest, and with these all is borne. */
         private void choose(Section s, Sizes sizes, int at, int price) {
             if (at >= s.rods || at >= MOST_RODS) {
-                keep(s.plan, price);
+                keep(s, price);
                 return;
             }
             attempt(s, sizes, at, price, NOTHING);
@@ -759,7 +758,7 @@ public final class RodBeam {
         /** Of choices at one price the first found stays, as it is the first in order. */
         private void attempt(Section s, Sizes sizes, int at, int price, int number) {
             int together = price + sizes.priceOf(number);
-            if (together >= s.plan.price || sizes.isIdle(number)) {
+            if (together >= s.bestPrice || sizes.isIdle(number)) {
                 return;
             }
             pick[at] = number;
@@ -769,10 +768,10 @@ public final class RodBeam {
             }
         }
 
-        private void keep(Plan plan, int price) {
-            plan.possible = true;
-            plan.price = price;
-            System.arraycopy(pick, 0, plan.pick, 0, MOST_RODS);
+        private void keep(Section s, int price) {
+            s.bestPossible = true;
+            s.bestPrice = price;
+            System.arraycopy(pick, 0, s.bestPick, 0, MOST_RODS);
         }
     }
 
