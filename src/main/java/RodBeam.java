@@ -957,8 +957,9 @@ public final class RodBeam {
         }
 
         /**
-         * The sum of two fractions, both shortened. A divisor that its top has in common with its bottom divides
-         * what the two bottoms have in common, so that no long numbers need be tried for one.
+         * The sum of two fractions, both shortened. A divisor that its top has in common with its
+         * bottom divides what the two bottoms have in common, so that no long numbers need be
+         * tried for one.
          */
         void putSum(Share a, Share b) {
             long shared = Math.max(1, commonDivisor(a.bottom, b.bottom));

@@ -16,7 +16,12 @@ final class Call {
         for (int i = 0; i < parts.length; i++) {
             arguments[i] = valueOf(parts[i]);
         }
-        method = find(text.substring(0, open));
+        method = find(RodBeam.class, text.substring(0, open));
+    }
+
+    @Override
+    public String toString() {
+        return text;
     }
 
     private static Object valueOf(String word) {
@@ -28,19 +33,27 @@ final class Call {
         };
     }
 
-    private static Method find(String name) {
-        for (Method m : RodBeam.class.getMethods()) {
-            if (m.getName().equals(name) && m.getDeclaringClass() == RodBeam.class) {
+    private static Method find(Class<?> where, String name) {
+        for (Method m : where.getDeclaredMethods()) {
+            if (m.getName().equals(name)) {
                 return m;
             }
         }
-        throw new IllegalArgumentException("the class has no call " + name);
+        throw new IllegalArgumentException(where + " has no call " + name);
     }
 
     /** A boolean counts 1 or 0. */
     int on(RodBeam x) {
+        return answer(method, x);
+    }
+
+    int on(SlowRodBeam x) {
+        return answer(find(SlowRodBeam.class, method.getName()), x);
+    }
+
+    private int answer(Method asked, Object x) {
         try {
-            Object answer = method.invoke(x, arguments);
+            Object answer = asked.invoke(x, arguments);
             return answer instanceof Boolean is ? (is ? 1 : 0) : (Integer) answer;
         } catch (IllegalAccessException | InvocationTargetException e) {
             throw new IllegalStateException(text + " failed", e);

@@ -1,3 +1,5 @@
+import java.util.ArrayList;
+import java.util.List;
 import java.util.Random;
 
 /** Promises 14 to 20: PAIRS and SIZES. */
@@ -189,62 +191,76 @@ public final class ChooseTest {
     /** Every choice of random SECTIONS, told by safe() itself, against what best() found. */
     private static void bestIsTheFirstOfTheLeast() {
         Random random = new Random(11);
-        for (int run = 0; run < 60; run++) {
+        for (int run = 0; run < 300; run++) {
             int rods = 1 + random.nextInt(run % 10 == 0 ? 6 : 4);
             int sizes = 1 + random.nextInt(4);
             int[] strength = new int[sizes];
             int[] price = new int[sizes];
-            RodBeam x = randomSection(random, rods);
+            List<Call> bench = randomSection(random, rods);
             for (int i = 0; i < sizes; i++) {
                 strength[i] = 1 + random.nextInt(200);
                 price[i] = 1 + random.nextInt(run % 2 == 0 ? 4 : 300);
-                x.size(strength[i], price[i]);
+                bench.add(new Call("size(" + strength[i] + ", " + price[i] + ")"));
             }
-            addPairs(x, random, rods);
+            addPairs(bench, random);
+            RodBeam x = made(bench);
             String got = x.best(0) + ":";
             for (int r = 0; r < rods; r++) {
                 got += " " + x.chosen(0, r);
             }
-            DUE.same("best and chosen in run " + run, got, everyChoice(x, rods, strength, price));
+            DUE.same("best and chosen after " + bench, got, everyChoice(bench, rods, strength, price));
         }
     }
 
-    private static RodBeam randomSection(Random random, int rods) {
+    private static RodBeam made(List<Call> bench) {
         RodBeam x = new RodBeam();
-        x.stone(0, 1 + random.nextInt(5), random.nextInt(101));
-        for (int i = 0; i < 3; i++) {
-            int from = random.nextInt(100);
-            x.band(0, 1 + random.nextInt(10), from, from + 1 + random.nextInt(100 - from));
-        }
-        for (int r = 0; r < rods; r++) {
-            x.rod(0, random.nextInt(101), 0);
+        for (Call call : bench) {
+            call.on(x);
         }
         return x;
     }
 
-    private static void addPairs(RodBeam x, Random random, int rods) {
-        for (int r = 0; r < rods; r++) {
-            x.change(0, r, random.nextInt(100));
+    private static List<Call> randomSection(Random random, int rods) {
+        List<Call> bench = new ArrayList<>();
+        bench.add(new Call("stone(0, " + (1 + random.nextInt(5)) + ", " + random.nextInt(101) + ")"));
+        for (int i = 0; i < 3; i++) {
+            int from = random.nextInt(100);
+            int to = from + 1 + random.nextInt(100 - from);
+            bench.add(new Call("band(0, " + (1 + random.nextInt(10)) + ", " + from + ", " + to + ")"));
         }
+        for (int r = 0; r < rods; r++) {
+            bench.add(new Call("rod(0, " + random.nextInt(101) + ", " + random.nextInt(100) + ")"));
+        }
+        return bench;
+    }
+
+    /** PAIRS that the SECTION as it is just bears. */
+    private static void addPairs(List<Call> bench, Random random) {
+        RodBeam x = made(bench);
+        int least = x.told(0, 6);
         for (int i = 0; i < 5; i++) {
-            int least = x.told(0, 6);
             int n = least + random.nextInt(1 - 2 * least);
-            boolean high = random.nextBoolean();
-            if (x.bend(0, n, high) > 0) {
+            if (x.bend(0, n, random.nextBoolean()) > 0) {
                 String[] parts = Due.out(x).split("/");
-                x.pair(n, (int) (Long.parseLong(parts[0]) / Long.parseLong(parts[1])));
+                long m = Long.parseLong(parts[0]) / Long.parseLong(parts[1]);
+                bench.add(new Call("pair(" + n + ", " + m + ")"));
             }
         }
     }
 
-    private static String everyChoice(RodBeam x, int rods, int[] strength, int[] price) {
+    private static String everyChoice(List<Call> bench, int rods, int[] strength, int[] price) {
         int choices = 1;
         for (int r = 0; r < rods; r++) {
             choices *= strength.length + 1;
         }
         int least = Integer.MAX_VALUE;
         String found = "-1:" + " -1".repeat(rods);
+        RodBeam x = null;
         for (int choice = 0; choice < choices; choice++) {
+            // An object is good for 512 calls, and a choice takes at most 7.
+            if (choice % 50 == 0) {
+                x = made(bench);
+            }
             int rest = choice;
             int sum = 0;
             String picks = "";

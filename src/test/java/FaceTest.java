@@ -23,27 +23,29 @@ public final class FaceTest {
         Set<String> want = new TreeSet<>(Set.of(FACE));
         Set<String> got = new TreeSet<>();
         for (Method m : RodBeam.class.getDeclaredMethods()) {
-            if (!Modifier.isPrivate(m.getModifiers()) && !m.isSynthetic()) {
-                String text = m.toGenericString().replace("public ", "").replace("RodBeam.", "");
-                got.add(text);
+            if (isOpen(m)) {
+                got.add(m.toGenericString().replaceFirst("^public ", "").replace("RodBeam.", ""));
+                DUE.yes(m.getName() + " is public", Modifier.isPublic(m.getModifiers()));
             }
         }
         DUE.same("the methods", got.toString(), want.toString());
-        Set<String> open = new TreeSet<>();
+        Set<String> constants = new TreeSet<>();
         for (Field f : RodBeam.class.getDeclaredFields()) {
-            addIfOpen(open, f);
+            if (isOpen(f)) {
+                constants.add(f.toGenericString());
+            }
         }
-        DUE.same("the constants", open.toString(), "[NONE]");
+        DUE.same("the constants", constants.toString(), "[public static final int RodBeam.NONE]");
         Constructor<?>[] makers = RodBeam.class.getDeclaredConstructors();
         DUE.same("the constructors", makers.length, 1);
+        DUE.same("the constructor", makers[0].toGenericString(), "public RodBeam()");
+        DUE.same("the public classes inside", RodBeam.class.getClasses().length, 0);
         DUE.yes("the class is public and final", Modifier.isPublic(RodBeam.class.getModifiers())
                 && Modifier.isFinal(RodBeam.class.getModifiers()));
     }
 
-    private static void addIfOpen(Set<String> open, Member m) {
-        if (!Modifier.isPrivate(m.getModifiers()) && !m.isSynthetic()) {
-            open.add(m.getName());
-        }
+    private static boolean isOpen(Member m) {
+        return !Modifier.isPrivate(m.getModifiers()) && !m.isSynthetic();
     }
 
     private static void aNewObjectIsEmpty() {

@@ -1,11 +1,22 @@
 import java.io.IOException;
+import java.lang.reflect.Array;
+import java.lang.reflect.Executable;
+import java.lang.reflect.Field;
+import java.lang.reflect.Method;
+import java.lang.reflect.Modifier;
 import java.nio.file.Files;
 import java.nio.file.Path;
+import java.util.ArrayDeque;
+import java.util.ArrayList;
+import java.util.Collections;
+import java.util.Deque;
+import java.util.IdentityHashMap;
 import java.util.List;
+import java.util.Set;
 import java.util.regex.Matcher;
 import java.util.regex.Pattern;
 
-/** The rules of LANGUAGE.md that can be seen in the text of the class, and that no call fails. */
+/** The rules of LANGUAGE.md that can be seen in the class or its text, and that no call fails. */
 public final class LanguageTest {
     private static final Due DUE = new Due("LanguageTest");
 
@@ -44,6 +55,85 @@ public final class LanguageTest {
                 DUE.tell("more than sixty lines without a pause at: " + line);
             }
         }
+    }
+
+    private static List<Class<?>> classes() {
+        List<Class<?>> all = new ArrayList<>(List.of(RodBeam.class.getDeclaredClasses()));
+        all.add(RodBeam.class);
+        return all;
+    }
+
+    private static void classesKeepTheirBounds() {
+        DUE.yes("at most twelve classes", classes().size() <= 12);
+        for (Class<?> c : classes()) {
+            if (c != RodBeam.class) {
+                DUE.yes(c + " is static", Modifier.isStatic(c.getModifiers()));
+            }
+            int own = 0;
+            for (Field f : c.getDeclaredFields()) {
+                boolean is = Modifier.isStatic(f.getModifiers());
+                own += is ? 0 : 1;
+                DUE.yes(f + " is no static state", !is || Modifier.isFinal(f.getModifiers()));
+            }
+            DUE.yes(c + " has at most twenty fields", own <= 20);
+            for (Method m : c.getDeclaredMethods()) {
+                methodKeepsItsBounds(m);
+            }
+        }
+    }
+
+    private static void methodKeepsItsBounds(Executable m) {
+        DUE.yes(m + " takes at most seven parameters", m.getParameterCount() <= 7);
+        for (Method open : RodBeam.class.getDeclaredMethods()) {
+            DUE.yes(m + " bears no public one's name", Modifier.isPublic(m.getModifiers())
+                    || !Modifier.isPublic(open.getModifiers()) || !m.getName().equals(open.getName()));
+        }
+    }
+
+    /** Objects come from fields and constructors alone, so that a run of calls takes no room. */
+    private static void noCallMakesObjects(String source) {
+        for (String line : source.split("\n")) {
+            boolean makes = Pattern.compile("\\bnew\\b|\\.(clone|copyOf|copyOfRange)\\b").matcher(line).find();
+            boolean field = line.matches("    (    )?(private )?final [\\w\\[\\]]+ \\w+ = new .*");
+            boolean constructor = line.matches(" +(sections|spans)\\[i\\] = new (Section|Span)\\(\\);");
+            DUE.yes("nothing is made in a call: " + line.trim(), !makes || field || constructor);
+        }
+    }
+
+    /** All runs share one room of 600,000 objects and 7.3 million fields and elements. */
+    private static void anObjectTakesLittleRoom() throws IllegalAccessException {
+        Set<Object> seen = Collections.newSetFromMap(new IdentityHashMap<>());
+        Deque<Object> open = new ArrayDeque<>(List.of(new RodBeam()));
+        long places = 0;
+        while (!open.isEmpty()) {
+            Object one = open.pop();
+            if (seen.add(one)) {
+                places += one.getClass().isArray() ? elements(one, open) : fields(one, open);
+            }
+        }
+        DUE.yes("an object is made of " + seen.size() + " objects", seen.size() <= 200);
+        DUE.yes("an object has " + places + " fields and elements", places <= 2000);
+    }
+
+    private static int elements(Object array, Deque<Object> open) {
+        if (array instanceof Object[] row) {
+            open.addAll(List.of(row));
+        }
+        return Array.getLength(array);
+    }
+
+    private static int fields(Object one, Deque<Object> open) throws IllegalAccessException {
+        int count = 0;
+        for (Field f : one.getClass().getDeclaredFields()) {
+            if (!Modifier.isStatic(f.getModifiers())) {
+                count++;
+                f.setAccessible(true);
+                if (!f.getType().isPrimitive()) {
+                    open.add(f.get(one));
+                }
+            }
+        }
+        return count;
     }
 
     /** Every call with every mix of far-off numbers, on an empty object and on a full one. */
@@ -105,11 +195,14 @@ public final class LanguageTest {
         }
     }
 
-    public static void main(String[] args) throws IOException {
+    public static void main(String[] args) throws IOException, IllegalAccessException {
         String source = source();
         nothingBarred(source);
         importsOnlyArrays(source);
         methodsStayShort(source);
+        classesKeepTheirBounds();
+        noCallMakesObjects(source);
+        anObjectTakesLittleRoom();
         noCallFails();
         DUE.end();
     }
